@@ -1,4 +1,6 @@
 import java.util.Random;
+import java.util.Set;
+import java.util.TreeSet;
 
 /** Runs of chosen calls on the class and on PlainTower, with fixed seeds: all answers must be the same. */
 public final class AgainstPlainTest {
@@ -7,8 +9,21 @@ public final class AgainstPlainTest {
         "token", "times", "turn", "act", "part", "same", "apart", "heap", "least", "order", "orbits",
         "orbit", "far", "way", "reach", "group", "growth", "laws", "law", "fall", "fallen"};
     private static final int[] WEIGHTS = {
-        1, 2, 2, 1, 0, 1, 6, 6, 6, 40, 5, 6, 10, 14, 12, 14, 14, 12, 14, 8, 8, 14, 8, 8, 10, 14, 8, 5, 4, 4,
+        2, 2, 2, 1, 1, 2, 6, 6, 6, 40, 5, 6, 10, 14, 12, 14, 14, 12, 14, 8, 8, 14, 8, 8, 10, 14, 8, 5, 4, 4,
         5, 2, 3};
+
+    /** Which refusals each call may give; an order above a million can't be had with so few ROWS. */
+    private static final String[] REFUSALS = {
+        "sheet -1", "sheet -4", "cell -1", "cell -3", "told -2147483648", "lose -1", "lose -3", "letters -1",
+        "state -1", "state -2", "state -3", "change -1", "of -2", "many -1", "put -1", "put -2", "put -6",
+        "wipe -1", "size -1", "times -1", "times -2", "turn -1", "turn -6", "act -1", "act -5", "part -1",
+        "part -5", "same -1", "same -5", "same -7", "apart -1", "apart -5", "apart -7", "apart -8", "heap -1",
+        "heap -5", "heap -7", "least -1", "least -5", "least -7", "order -1", "order -5", "order -6",
+        "orbits -1", "orbits -5", "orbit -1", "orbit -5", "far -1", "far -5", "far -8", "reach -1", "reach -5",
+        "group -1", "group -5", "group -7", "growth -1", "growth -5", "growth -7", "laws -1", "laws -5",
+        "laws -7", "law -1", "law -5", "law -7", "law -8", "fall -1", "fall -5", "fall -7", "fallen -1",
+        "fallen -5", "fallen -7", "fallen -8"};
+    private static final Set<String> SEEN = new TreeSet<>();
 
     private final Random random;
     private final SwitchTower x = new SwitchTower();
@@ -24,19 +39,19 @@ public final class AgainstPlainTest {
     public static void main(String[] args) {
         int runs = args.length > 0 ? Integer.parseInt(args[0]) : 500;
         int first = args.length > 1 ? Integer.parseInt(args[1]) : 0;
-        int[] seen = new int[CALLS.length];
         for (int seed = first; seed < first + runs; seed++) {
             AgainstPlainTest test = new AgainstPlainTest("run " + seed, seed);
             test.layMachine();
             for (int i = 0; i < 80; i++) {
-                int call = test.chooseCall();
-                seen[call]++;
-                test.call(CALLS[call]);
+                test.call(CALLS[test.chooseCall()]);
             }
             test.compareWords();
         }
-        for (int i = 0; i < CALLS.length; i++) {
-            Due.check(CALLS[i] + " was never called", seen[i] > 0 || WEIGHTS[i] == 0);
+        for (String call : CALLS) {
+            Due.check(call + " never gave an answer", SEEN.contains(call));
+        }
+        for (String refusal : REFUSALS) {
+            Due.check(refusal + " was never given", SEEN.contains(refusal));
         }
         Due.end();
     }
@@ -74,6 +89,11 @@ public final class AgainstPlainTest {
             return wild[below(wild.length)];
         }
         return low + below(high - low + 1);
+    }
+
+    /** Mostly one of the first SPOTS, so that their WORDS grow long. */
+    private int spot() {
+        return below(2) == 0 ? below(3) : near(0, 7);
     }
 
     private void layMachine() {
@@ -142,6 +162,8 @@ public final class AgainstPlainTest {
 
     private void compare(String call, int got, int want) {
         calls++;
+        String name = call.indexOf('(') < 0 ? call : call.substring(0, call.indexOf('('));
+        SEEN.add(got < 0 ? name + " " + got : name);
         Due.due(run + ", call " + calls + ": " + call, got, want);
     }
 
@@ -154,9 +176,9 @@ public final class AgainstPlainTest {
     }
 
     private void call(String name) {
-        int a = near(0, 7);
-        int b = near(0, 7);
-        int c = near(0, 7);
+        int a = spot();
+        int b = spot();
+        int c = spot();
         switch (name) {
             case "sheet", "cell", "told", "lose", "state", "change", "of", "many", "letters" -> callSheets(name);
             case "put" -> {
@@ -218,7 +240,11 @@ public final class AgainstPlainTest {
                 int what = near(0, 3);
                 compare(name, x.many(what), plain.many(what));
             }
-            default -> compare(name, x.letters(v), plain.letters(v));
+            default -> {
+                int k = below(3) == 0 ? 2 + below(3) : v;
+                compare(name + "(" + k + ")", x.letters(k), plain.letters(k));
+                layMachine();
+            }
         }
     }
 
