@@ -255,7 +255,7 @@ public final class SwitchTower {
             return STATE;
         }
         scratch.copy(spots[spot]);
-        return descend(scratch, row, n);
+        return walkDown(scratch, row, n);
     }
 
     public int part(int a, int row, int to) {
@@ -267,7 +267,7 @@ public final class SwitchTower {
             return STATE;
         }
         scratch.copy(spots[a]);
-        descend(scratch, row, n);
+        walkDown(scratch, row, n);
         return bring(scratch, to);
     }
 
@@ -386,7 +386,7 @@ public final class SwitchTower {
         levels.build(machine, n);
         levelGroup.begin(rows);
         for (int s = 0; s < machine.states; s++) {
-            if (machine.isBack(s) && !levelGroup.join(levels.packed(2 * s, n))) {
+            if (machine.isBack(s) && !levelGroup.bringIn(levels.packed(2 * s, n))) {
                 return SPENT;
             }
         }
@@ -508,6 +508,7 @@ public final class SwitchTower {
     }
 
     // Both words are REDUCED: once they no longer cancel the joined one only grows, so FULL is final.
+    // The second one is read beforehand: it may be the scratch word itself.
     private int join(Word first, Word second, int to) {
         long tail = second.marks;
         int tailLength = second.length;
@@ -520,7 +521,8 @@ public final class SwitchTower {
         return bring(scratch, to);
     }
 
-    private int descend(Word word, int row, int n) {
+    /** Makes a word its PART at a ROW, and tells what it made of that ROW. */
+    private int walkDown(Word word, int row, int n) {
         int made = 1;
         for (int i = n - 1; i >= 0; i--) {
             made = 4 * made + word.descend(machine, (row >> (2 * i)) & 3);
@@ -535,7 +537,7 @@ public final class SwitchTower {
         if (!machine.whole) {
             return STATE;
         }
-        pool.clear();
+        pool.reset();
         if (pool.take(machine, spots[a]) < 0 || pool.take(machine, spots[b]) < 0) {
             return SPENT;
         }
@@ -904,7 +906,7 @@ public final class SwitchTower {
         int kinds = 0;
         int roundCount = 0;
 
-        void clear() {
+        void reset() {
             words.clear();
             followed = 0;
             classified = 0;
@@ -1215,12 +1217,12 @@ public final class SwitchTower {
          * and the new one falls into blocks of its size: only the first of each block is tried with
          * the generators, and what it leads to brings its whole block.
          */
-        boolean join(long generator) {
+        boolean bringIn(long generator) {
             if (members.find(generator, 0) >= 0 || generatorCount >= MOST_STATES) {
                 return true;
             }
             generators[generatorCount++] = generator;
-            int block = members.count;
+            int block = Math.max(members.count, 1);
             for (int first = 0; first < members.count && first < MOST_GROUP; first += block) {
                 for (int g = 0; g < generatorCount; g++) {
                     long next = behind(members.keys[first], generators[g]);
@@ -1308,7 +1310,7 @@ public final class SwitchTower {
         }
 
         private void beginWithEmpty() {
-            pool.clear();
+            pool.reset();
             word.empty();
             pool.enter(word);
         }

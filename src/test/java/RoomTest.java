@@ -19,6 +19,7 @@ public final class RoomTest {
         Due.check("an object is made of too many objects: " + objects, objects <= 200);
         Due.check("an object has too many elements: " + elements, elements <= 50000);
         callsMakeNothing();
+        longUse();
         Due.end();
     }
 
@@ -62,6 +63,18 @@ public final class RoomTest {
             Due.check("calls make " + made + " bytes", round == 0 || made < 20000);
         }
         Due.check("answers", checksum != 0);
+    }
+
+    /** Beyond what is promised, but what is used again and again must not wear out on the way. */
+    private static void longUse() {
+        SwitchTower x = Benches.grigorchuk();
+        x.put(0, 2, 3, 0, 0);
+        x.put(1, 4, 0, 0, 0);
+        boolean right = true;
+        for (int i = 0; i < 600000; i++) {
+            right &= x.same(0, 1) == 1;
+        }
+        Due.check("same answers otherwise after a while", right);
     }
 
     private static long askAll(SwitchTower x) {

@@ -181,6 +181,13 @@ public final class SheetsAndStatesTest {
             Due.due("writes of none told", x.of(5, letter, 0), letter);
             Due.due("goes of none told", x.of(5, letter, 1), -1);
         }
+        x.sheet(1, 2, 40);
+        for (int i = 0; i < 40; i++) {
+            x.cell(1, i, i >= 10 && i < 16 ? i % 2 : -99);
+        }
+        Due.due("state(1, 10): wrong numbers around it are not its own", x.state(1, 10), 6);
+        Due.due("state(1, 9)", x.state(1, 9), -1);
+        Due.due("state(1, 11)", x.state(1, 11), -1);
         x.cell(0, 1, 1);
         Due.due("a state keeps what it read", x.of(0, 0, 0), 2);
         x.lose(0);
