@@ -82,38 +82,38 @@ public final class LevelsTest {
 
     private static void orbitsOfRows() {
         SwitchTower x = Benches.eraser();
-        Due.due("orbit 000", x.orbit(row("000")), 4);
-        Due.due("orbit 111", x.orbit(row("111")), 2);
-        Due.due("orbit 011", x.orbit(row("011")), 2);
+        Due.due("orbit 000", x.orbit(Look.row("000")), 4);
+        Due.due("orbit 111", x.orbit(Look.row("111")), 2);
+        Due.due("orbit 011", x.orbit(Look.row("011")), 2);
         Due.due("orbit of the empty row", x.orbit(1), 1);
         SwitchTower o = Benches.odometer(3);
-        Due.due("orbit of 243", o.orbit(row("00000")), 243);
-        Due.due("orbit of 3", o.orbit(row("2")), 3);
+        Due.due("orbit of 243", o.orbit(Look.row("00000")), 243);
+        Due.due("orbit of 3", o.orbit(Look.row("2")), 3);
         SwitchTower none = new SwitchTower();
-        Due.due("orbit with no states", none.orbit(row("0101")), 1);
+        Due.due("orbit with no states", none.orbit(Look.row("0101")), 1);
         SwitchTower two = Benches.odometer(2);
-        Due.due("orbit of 256", two.orbit(row("00000000")), 256);
-        Due.due("orbit of nine letters", two.orbit(row("000000000")), -1);
+        Due.due("orbit of 256", two.orbit(Look.row("00000000")), 256);
+        Due.due("orbit of nine letters", two.orbit(Look.row("000000000")), -1);
     }
 
     private static void distances() {
         SwitchTower x = Benches.eraser();
-        Due.due("far 000 000", x.far(row("000"), row("000")), 0);
-        Due.due("far 000 111", x.far(row("000"), row("111")), 1);
-        Due.due("far 000 011", x.far(row("000"), row("011")), 2);
-        Due.due("far 111 000", x.far(row("111"), row("000")), -8);
+        Due.due("far 000 000", x.far(Look.row("000"), Look.row("000")), 0);
+        Due.due("far 000 111", x.far(Look.row("000"), Look.row("111")), 1);
+        Due.due("far 000 011", x.far(Look.row("000"), Look.row("011")), 2);
+        Due.due("far 111 000", x.far(Look.row("111"), Look.row("000")), -8);
         Due.due("far 1 1", x.far(1, 1), 0);
         SwitchTower o = Benches.odometer(2);
         int[] due = {0, 1, 2, 3, 4, 3, 2, 1};
         String[] rows = {"000", "100", "010", "110", "001", "101", "011", "111"};
         for (int i = 0; i < 8; i++) {
-            Due.due("far 000 " + rows[i], o.far(row("000"), row(rows[i])), due[i]);
+            Due.due("far 000 " + rows[i], o.far(Look.row("000"), Look.row(rows[i])), due[i]);
         }
-        Due.due("far to another level", o.far(row("000"), row("00")), -1);
-        Due.due("far to a number that is no row", o.far(row("000"), 2 * row("000")), -1);
-        Due.due("far to a letter that is none", o.far(row("000"), row("002")), -1);
-        Due.due("far of nine letters", o.far(row("000000000"), row("000000000")), -1);
-        Due.due("far at 256 rows", o.far(row("00000000"), row("00000001")), 128);
+        Due.due("far to another level", o.far(Look.row("000"), Look.row("00")), -1);
+        Due.due("far to a number that is no row", o.far(Look.row("000"), 2 * Look.row("000")), -1);
+        Due.due("far to a letter that is none", o.far(Look.row("000"), Look.row("002")), -1);
+        Due.due("far of nine letters", o.far(Look.row("000000000"), Look.row("000000000")), -1);
+        Due.due("far at 256 rows", o.far(Look.row("00000000"), Look.row("00000001")), 128);
     }
 
     private static void ways() {
@@ -122,10 +122,10 @@ public final class LevelsTest {
         Due.due("way 000 100", way(x, "000", "100"), "2");
         Due.due("way 111 000", way(x, "111", "000"), "");
         Due.due("way 000 000", way(x, "000", "000"), "");
-        Due.due("way, TOKEN -1", x.way(row("000"), row("011"), -1), 0);
-        Due.due("way, TOKEN 2", x.way(row("000"), row("011"), 2), 0);
-        Due.due("way, a late TOKEN", x.way(row("000"), row("011"), Integer.MAX_VALUE), 0);
-        Due.due("way to another level", x.way(row("000"), row("11"), 0), 0);
+        Due.due("way, TOKEN -1", x.way(Look.row("000"), Look.row("011"), -1), 0);
+        Due.due("way, TOKEN 2", x.way(Look.row("000"), Look.row("011"), 2), 0);
+        Due.due("way, a late TOKEN", x.way(Look.row("000"), Look.row("011"), Integer.MAX_VALUE), 0);
+        Due.due("way to another level", x.way(Look.row("000"), Look.row("11"), 0), 0);
         SwitchTower o = Benches.odometer(2);
         Due.due("way to 3", way(o, "000", "110"), "1 1 1");
         Due.due("way to 4, of two that are as long", way(o, "000", "001"), "1 1 1 1");
@@ -143,17 +143,17 @@ public final class LevelsTest {
 
     private static void reaches() {
         SwitchTower o = Benches.odometer(2);
-        Due.due("reach 000", o.reach(row("000")), 4);
+        Due.due("reach 000", o.reach(Look.row("000")), 4);
         Due.due("reach of the empty row", o.reach(1), 0);
-        Due.due("reach at 256 rows", o.reach(row("10101010")), 128);
+        Due.due("reach at 256 rows", o.reach(Look.row("10101010")), 128);
         SwitchTower three = Benches.odometer(3);
-        Due.due("reach 00 of three", three.reach(row("00")), 4);
+        Due.due("reach 00 of three", three.reach(Look.row("00")), 4);
         SwitchTower x = Benches.eraser();
-        Due.due("reach 000", x.reach(row("000")), 2);
-        Due.due("reach 111", x.reach(row("111")), 1);
-        Due.due("reach with no states", new SwitchTower().reach(row("01")), 0);
+        Due.due("reach 000", x.reach(Look.row("000")), 2);
+        Due.due("reach 111", x.reach(Look.row("111")), 1);
+        Due.due("reach with no states", new SwitchTower().reach(Look.row("01")), 0);
         SwitchTower g = Benches.grigorchuk();
-        Due.due("reach 0000", g.reach(row("0000")), 10);
+        Due.due("reach 0000", g.reach(Look.row("0000")), 10);
     }
 
     private static void groups() {
@@ -197,15 +197,15 @@ public final class LevelsTest {
         Due.due("group(greatest)", x.group(Integer.MAX_VALUE), -1);
         Due.due("orbit(2)", x.orbit(2), -1);
         Due.due("reach(6)", x.reach(6), -1);
-        Due.due("reach of nine letters", x.reach(row("000000000")), -1);
+        Due.due("reach of nine letters", x.reach(Look.row("000000000")), -1);
         SwitchTower three = Benches.odometer(3);
         Due.due("orbits(5)", three.orbits(5), 1);
         Due.due("orbits(6)", three.orbits(6), -1);
-        Due.due("orbit of six of three letters", three.orbit(row("000000")), -1);
+        Due.due("orbit of six of three letters", three.orbit(Look.row("000000")), -1);
         SwitchTower four = Benches.odometer(4);
         Due.due("orbits(4)", four.orbits(4), 1);
         Due.due("orbits(5)", four.orbits(5), -1);
-        Due.due("reach of five of four letters", four.reach(row("00000")), -1);
+        Due.due("reach of five of four letters", four.reach(Look.row("00000")), -1);
     }
 
     private static void notWhole() {
@@ -216,8 +216,8 @@ public final class LevelsTest {
         Due.due("orbits", x.orbits(0), -5);
         Due.due("orbit", x.orbit(1), -5);
         Due.due("far", x.far(1, 1), -5);
-        Due.due("way", x.way(row("0"), row("1"), 0), 0);
-        Due.due("reach", x.reach(row("01")), -5);
+        Due.due("way", x.way(Look.row("0"), Look.row("1"), 0), 0);
+        Due.due("reach", x.reach(Look.row("01")), -5);
         Due.due("group", x.group(4), -5);
         Due.due("order: NUMBER ahead of STATE", x.order(0, 9), -1);
         Due.due("orbits: NUMBER ahead of STATE", x.orbits(9), -1);
@@ -235,31 +235,23 @@ public final class LevelsTest {
         x.change(0, 1, 0, -1);
         Due.due("orbits(3) without a carry", x.orbits(3), 4);
         Due.due("group(3) without a carry", x.group(3), 2);
-        Due.due("reach 000 without a carry", x.reach(row("000")), 1);
+        Due.due("reach 000 without a carry", x.reach(Look.row("000")), 1);
         x.sheet(0, 0, 4);
         x.cell(0, 1, 0);
         x.cell(0, 2, 1);
         x.cell(0, 3, 0);
         Due.due("a second state", x.state(0, 0), 1);
         Due.due("orbits(3) with two", x.orbits(3), 2);
-        Due.due("far with two", x.far(row("000"), row("110")), 2);
+        Due.due("far with two", x.far(Look.row("000"), Look.row("110")), 2);
         x.letters(3);
         Due.due("orbits(3) of three letters", x.orbits(3), 27);
     }
 
     private static String way(SwitchTower x, String from, String to) {
         StringBuilder text = new StringBuilder();
-        for (int i = 0; x.way(row(from), row(to), i) != 0; i++) {
-            text.append(i == 0 ? "" : " ").append(x.way(row(from), row(to), i));
+        for (int i = 0; x.way(Look.row(from), Look.row(to), i) != 0; i++) {
+            text.append(i == 0 ? "" : " ").append(x.way(Look.row(from), Look.row(to), i));
         }
         return text.toString();
-    }
-
-    private static int row(String letters) {
-        int row = 1;
-        for (char letter : letters.toCharArray()) {
-            row = 4 * row + (letter - '0');
-        }
-        return row;
     }
 }

@@ -1,4 +1,4 @@
-/** All that can be asked of an object without changing it, as one text. */
+/** What tests look at: all that can be asked of an object without changing it, its words, and rows. */
 final class Look {
     private Look() {
     }
@@ -26,6 +26,15 @@ final class Look {
             text.append("| ").append(word(x, spot));
         }
         return text.toString();
+    }
+
+    /** The number that tells a ROW of these LETTERS. */
+    static int row(String letters) {
+        int row = 1;
+        for (char letter : letters.toCharArray()) {
+            row = 4 * row + (letter - '0');
+        }
+        return row;
     }
 
     static String word(SwitchTower x, int spot) {

@@ -380,7 +380,6 @@ final class PlainTower {
         return heapOf(List.of(spots.get(a), spots.get(b))) == null ? SPENT : 0;
     }
 
-    // List.of would refuse nothing here, but two equal words must count once: LinkedHashSet sees to that.
     int same(int a, int b) {
         int refusal = refusal(a, b);
         return refusal < 0 ? refusal : alike(spots.get(a), spots.get(b)) ? 1 : 0;

@@ -150,24 +150,24 @@ public final class WordsTest {
         x.put(2, -1, 0, 0, 0);
         Due.due("act(0, 1)", x.act(0, 1), 1);
         // 1 1 0 1 is 11, with the lowest digit first; 12 is 0 0 1 1.
-        Due.due("act(0, 337)", x.act(0, 337), row("0011"));
-        Due.due("act(1, 1101)", x.act(1, row("1101")), row("0111"));
-        Due.due("act(2, 0000)", x.act(2, row("0000")), row("1111"));
-        Due.due("act of ten letters", x.act(0, row("1111111111")), row("0000000000"));
-        Due.due("act of ten letters, the way back", x.act(2, row("0000000001")), row("1111111110"));
-        Due.due("act of eleven letters", x.act(0, 4 * row("1111111111")), -1);
-        Due.due("act of the empty word", x.act(5, row("0101")), row("0101"));
+        Due.due("act(0, 337)", x.act(0, 337), Look.row("0011"));
+        Due.due("act(1, 1101)", x.act(1, Look.row("1101")), Look.row("0111"));
+        Due.due("act(2, 0000)", x.act(2, Look.row("0000")), Look.row("1111"));
+        Due.due("act of ten letters", x.act(0, Look.row("1111111111")), Look.row("0000000000"));
+        Due.due("act of ten letters, the way back", x.act(2, Look.row("0000000001")), Look.row("1111111110"));
+        Due.due("act of eleven letters", x.act(0, 4 * Look.row("1111111111")), -1);
+        Due.due("act of the empty word", x.act(5, Look.row("0101")), Look.row("0101"));
         Due.due("act(8, 1)", x.act(8, 1), -1);
         Due.due("act(-1, 1)", x.act(-1, 1), -1);
         SwitchTower e = Benches.eraser();
         e.put(0, 2, 1, 2, 0);
-        Due.due("the first token acts first", e.act(0, row("000")), row("011"));
+        Due.due("the first token acts first", e.act(0, Look.row("000")), Look.row("011"));
         e.wipe(0);
         e.put(0, 1, 2, 0, 0);
-        Due.due("act 1 2", e.act(0, row("010")), row("011"));
+        Due.due("act 1 2", e.act(0, Look.row("010")), Look.row("011"));
         SwitchTower four = Benches.odometer(4);
         four.put(0, 1, 0, 0, 0);
-        Due.due("act on four letters", four.act(0, row("3333333332")), row("0000000003"));
+        Due.due("act on four letters", four.act(0, Look.row("3333333332")), Look.row("0000000003"));
     }
 
     private static void actsOfWaysBack() {
@@ -175,8 +175,8 @@ public final class WordsTest {
         SwitchTower x = Benches.of(3, new int[] {1, 0, 2, 1, 0, -1}, new int[] {0, 0, 2, -1, 1, 1});
         x.put(0, 1, 0, 0, 0);
         x.put(1, -1, 0, 0, 0);
-        Due.due("act 1 on 0112", x.act(0, row("0112")), row("1222"));
-        Due.due("act -1 on 1222", x.act(1, row("1222")), row("0112"));
+        Due.due("act 1 on 0112", x.act(0, Look.row("0112")), Look.row("1222"));
+        Due.due("act -1 on 1222", x.act(1, Look.row("1222")), Look.row("0112"));
         for (int a = 0; a < 3; a++) {
             for (int b = 0; b < 3; b++) {
                 for (int c = 0; c < 3; c++) {
@@ -191,23 +191,23 @@ public final class WordsTest {
         SwitchTower x = Benches.grigorchuk();
         x.put(0, 2, 1, 2, 1);
         // b a b a at 0: b goes to a and keeps 0; a turns it to 1; b goes to c; a turns it back.
-        Due.due("part(0, 4, 1)", x.part(0, row("0"), 1), 2);
+        Due.due("part(0, 4, 1)", x.part(0, Look.row("0"), 1), 2);
         Due.due("word 1", Look.word(x, 1), "1 3");
-        Due.due("part(0, 5, 1)", x.part(0, row("1"), 1), 2);
+        Due.due("part(0, 5, 1)", x.part(0, Look.row("1"), 1), 2);
         Due.due("word 1", Look.word(x, 1), "3 1");
         // 1 3 at 0: a goes IDLE and makes 1; c goes to d for 1.
-        Due.due("part at 00", x.part(0, row("00"), 2), 1);
+        Due.due("part at 00", x.part(0, Look.row("00"), 2), 1);
         Due.due("word 2", Look.word(x, 2), "4");
         Due.due("part at the empty row", x.part(0, 1, 3), 4);
         Due.due("word 3", Look.word(x, 3), "2 1 2 1");
-        Due.due("part where it stands", x.part(3, row("0"), 3), 2);
+        Due.due("part where it stands", x.part(3, Look.row("0"), 3), 2);
         Due.due("word 3", Look.word(x, 3), "1 3");
         x.put(4, 2, 1, -2, -1);
-        Due.due("part of a way back", x.part(4, row("1"), 5), 2);
+        Due.due("part of a way back", x.part(4, Look.row("1"), 5), 2);
         Due.due("word 5", Look.word(x, 5), "3 -1");
         x.wipe(4);
         x.put(4, 2, 2, 1, 3);
-        Due.due("part at 10 letters", x.part(4, row("1111111111"), 5), 2);
+        Due.due("part at 10 letters", x.part(4, Look.row("1111111111"), 5), 2);
         Due.unchanged(x, "part(8, 4, 0)", () -> x.part(8, 4, 0), -1);
         Due.unchanged(x, "part(0, 4, 8)", () -> x.part(0, 4, 8), -1);
         Due.unchanged(x, "part(0, 4, -1)", () -> x.part(0, 4, -1), -1);
@@ -216,7 +216,7 @@ public final class WordsTest {
         // At 1 the tokens become 3, 3, -3 and 3: a pair of these goes.
         SwitchTower y = Benches.of(2, new int[] {1, 2, 0, 2}, new int[] {0, 2, 1, 2}, new int[] {1, -1, 0, 2});
         y.put(0, 3, 1, -2, 3);
-        Due.due("part that is reduced", y.part(0, row("1"), 1), 2);
+        Due.due("part that is reduced", y.part(0, Look.row("1"), 1), 2);
         Due.due("word 1", Look.word(y, 1), "3 3");
     }
 
@@ -233,7 +233,7 @@ public final class WordsTest {
             Due.due("far(1, " + row + ")", x.far(1, row), -1);
             Due.due("way(" + row + ", 1, 0)", x.way(row, 1, 0), 0);
         }
-        int[] some = {1, 4, 6, 16, 26, row("2222222222")};
+        int[] some = {1, 4, 6, 16, 26, Look.row("2222222222")};
         for (int row : some) {
             Due.due("act(0, " + row + ")", x.act(0, row), row);
         }
@@ -277,12 +277,12 @@ public final class WordsTest {
         x.put(2, 1, 1, 1, 1);
         x.times(2, 2, 3);
         x.times(3, 3, 4);
-        Due.due("1 and nothing", x.apart(0, 7), row("0"));
-        Due.due("2 and nothing", x.apart(1, 7), row("00"));
-        Due.due("4 and nothing", x.apart(2, 7), row("000"));
-        Due.due("8 and nothing", x.apart(3, 7), row("0000"));
-        Due.due("16 and nothing", x.apart(4, 7), row("00000"));
-        Due.due("16 and 8", x.apart(4, 3), row("0000"));
+        Due.due("1 and nothing", x.apart(0, 7), Look.row("0"));
+        Due.due("2 and nothing", x.apart(1, 7), Look.row("00"));
+        Due.due("4 and nothing", x.apart(2, 7), Look.row("000"));
+        Due.due("8 and nothing", x.apart(3, 7), Look.row("0000"));
+        Due.due("16 and nothing", x.apart(4, 7), Look.row("00000"));
+        Due.due("16 and 8", x.apart(4, 3), Look.row("0000"));
         Due.due("8 and 8", x.apart(3, 3), -8);
         Due.due("apart(8, 0)", x.apart(8, 0), -1);
         Due.due("apart(0, -1)", x.apart(0, -1), -1);
@@ -291,14 +291,14 @@ public final class WordsTest {
         g.put(1, 3, 0, 0, 0);
         g.put(2, 4, 0, 0, 0);
         // b and c part where the one is followed by c and the other by d: at 1, then 0.
-        Due.due("b and c", g.apart(0, 1), row("100"));
-        Due.due("b and d", g.apart(0, 2), row("00"));
-        Due.due("c and nothing", g.apart(1, 7), row("00"));
-        Due.due("d and nothing", g.apart(2, 7), row("100"));
+        Due.due("b and c", g.apart(0, 1), Look.row("100"));
+        Due.due("b and d", g.apart(0, 2), Look.row("00"));
+        Due.due("c and nothing", g.apart(1, 7), Look.row("00"));
+        Due.due("d and nothing", g.apart(2, 7), Look.row("100"));
         // The second letter shows it, but only behind a 2; then the least one, 1, is unlike.
         SwitchTower t = Benches.of(3, new int[] {0, -1, 1, -1, 2, 1}, new int[] {0, -1, 2, -1, 1, -1});
         t.put(0, 1, 0, 0, 0);
-        Due.due("a late one", t.apart(0, 7), row("21"));
+        Due.due("a late one", t.apart(0, 7), Look.row("21"));
     }
 
     /** STATE 0 adds one, but a carry waits for two letters at STATES 1 and 2. */
@@ -317,11 +317,11 @@ public final class WordsTest {
         x.put(2, 2, 2, 2, 2);
         x.times(2, 2, 2);
         x.times(2, 2, 2);
-        Due.due("at 13 letters", x.apart(0, 7), row("0000000000000"));
-        Due.due("at 14 letters", x.apart(1, 7), row("00000000000000"));
+        Due.due("at 13 letters", x.apart(0, 7), Look.row("0000000000000"));
+        Due.due("at 14 letters", x.apart(1, 7), Look.row("00000000000000"));
         Due.due("at 15 letters: none is told", x.apart(2, 7), -8);
         Due.due("and yet they are unlike", x.same(2, 7), 0);
-        Due.due("two that are parted late", x.apart(1, 2), row("00000000000000"));
+        Due.due("two that are parted late", x.apart(1, 2), Look.row("00000000000000"));
     }
 
     private static void heaps() {
@@ -420,13 +420,5 @@ public final class WordsTest {
         x.sheet(0, 0, 0);
         x.state(0, 0);
         Due.due("act, whole at last", x.act(0, 4), 5);
-    }
-
-    private static int row(String letters) {
-        int row = 1;
-        for (char letter : letters.toCharArray()) {
-            row = 4 * row + (letter - '0');
-        }
-        return row;
     }
 }
