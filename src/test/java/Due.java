@@ -27,6 +27,10 @@ final class Due {
         }
     }
 
+    static int count() {
+        return right + wrong;
+    }
+
     /** A call that answers so must leave all that can be asked of the object as it was. */
     static void unchanged(SwitchTower x, String call, IntSupplier asked, long want) {
         String before = Look.at(x);
