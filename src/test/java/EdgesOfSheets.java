@@ -377,6 +377,7 @@ final class EdgesOfSheets {
         Doc.says("MISSING");
         Run.fresh().refused(MISSING, "state", 0, 0).refused(MISSING, "state", 3, GREATEST);
         full.refused(MISSING, "state", 1, 0);
+        Run.fresh().does("sheet", 0, 2, 4).does("cell", 0, 0, 9).does("lose", 0).refused(MISSING, "state", 0, 0);
         Doc.says("NUMBER: one that it would WRITE is no LETTER, or one to which it would GO isn't -1 to 7");
         for (int k = 2; k <= 4; k++) {
             for (int i = 0; i < 2 * k; i++) {

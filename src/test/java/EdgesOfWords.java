@@ -55,18 +55,19 @@ final class EdgesOfWords {
     }
 
     /** SPOT 0 has a WORD whose HEAP has 200 WORDS, SPOT 1 one that is not among these. */
-    private static Run greatHeaps(int[]... more) {
-        int[][] states = new int[3 + more.length][];
-        states[0] = new int[] {0, 1, 2, 0, 0, -1};
-        states[1] = new int[] {2, 1, 1, 0, 0, 0};
-        states[2] = TURN;
-        System.arraycopy(more, 0, states, 3, more.length);
-        return Run.of(3, states).puts(0, "1 2 2 2 1 1 1 2 2 2 1 2 1 2 1 2").puts(1, "3");
+    private static Run greatHeaps() {
+        Run x = Run.of(3, new int[] {0, 1, 2, 0, 0, -1}, new int[] {2, 1, 1, 0, 0, 0}, TURN);
+        return x.puts(0, "1 2 2 2 1 1 1 2 2 2 1 2 1 2 1 2").puts(1, "3");
     }
 
     private static Run heapOf201() {
         Run x = Run.of(3, new int[] {2, -1, 0, 0, 1, 1}, new int[] {0, 1, 0, 1, 2, 0});
         return x.puts(0, "1 2 2 2 2 2 2 1 2 1 2 2 2 1 1 2");
+    }
+
+    /** A HEAP that is SPENT, on a machine that is not WHOLE for a STATE to which nothing comes. */
+    private static Run openHeapOf201() {
+        return heapOf201().refused(SPENT, "heap", 0).does("sheet", 0, 0, 2).does("cell", 0, 1, 7).does("state", 0, 0);
     }
 
     /** The HEAPS of SPOTS 0 and 1 have 200 WORDS together, those of 2 and 3 have 201. */
@@ -402,7 +403,7 @@ final class EdgesOfWords {
         Run open = open().refused(NUMBER, "same", 0, 8).refused(NUMBER, "same", -1, 1);
         Doc.says("STATE");
         open.refused(STATE, "same", 0, 0).refused(STATE, "same", 6, 7);
-        greatHeaps(new int[] {0, 7, 1, -1}).refused(STATE, "same", 0, 1);
+        openHeapOf201().refused(STATE, "same", 0, 7).refused(STATE, "same", 0, 0);
         Doc.says("SPENT: THE HEAP of both is.");
         greatHeaps().due(1, "same", 0, 0).due(0, "same", 0, 7).refused(SPENT, "same", 0, 1)
             .refused(SPENT, "same", 1, 0);
@@ -436,7 +437,7 @@ final class EdgesOfWords {
         heapOf201().refused(NUMBER, "apart", 0, 8).refused(SPENT, "apart", 0, 7).refused(SPENT, "apart", 7, 0)
             .refused(SPENT, "apart", 0, 0);
         greatHeaps().due(4, "apart", 0, 7).refused(SPENT, "apart", 0, 1).refused(SPENT, "apart", 1, 0);
-        greatHeaps(new int[] {0, 7, 1, -1}).refused(STATE, "apart", 0, 1).refused(STATE, "apart", 0, 0);
+        openHeapOf201().refused(STATE, "apart", 0, 7).refused(STATE, "apart", 0, 0).refused(NUMBER, "apart", 8, 8);
         heapsTogether().due(16, "apart", 0, 1).refused(SPENT, "apart", 2, 3);
     }
 
@@ -477,7 +478,7 @@ final class EdgesOfWords {
         greatHeaps().bounds(NUMBER, 0, 0, 7, "heap", 0);
         open().refused(NUMBER, "heap", 8).refused(NUMBER, "heap", -1).refused(STATE, "heap", 0)
             .refused(STATE, "heap", 7);
-        greatHeaps(new int[] {0, 7, 1, -1}).refused(STATE, "heap", 0);
+        openHeapOf201().refused(STATE, "heap", 0).refused(NUMBER, "heap", 8);
         heapOf201().refused(SPENT, "heap", 0).due(1, "heap", 7);
     }
 
@@ -495,7 +496,7 @@ final class EdgesOfWords {
         greatHeaps().bounds(NUMBER, 0, 0, 7, "least", 0);
         open().refused(NUMBER, "least", 8).refused(NUMBER, "least", -1).refused(STATE, "least", 0)
             .refused(STATE, "least", 7);
-        greatHeaps(new int[] {0, 7, 1, -1}).refused(STATE, "least", 0);
+        openHeapOf201().refused(STATE, "least", 0).refused(NUMBER, "least", 8);
         heapOf201().refused(SPENT, "least", 0).due(1, "least", 7);
     }
 }
