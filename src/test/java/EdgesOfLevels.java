@@ -1,15 +1,5 @@
 /** The edges of promises 23 to 29, and of the terms that they are told in. */
-final class EdgesOfLevels {
-    private static final int LEAST = Run.LEAST;
-    private static final int GREATEST = Run.GREATEST;
-    private static final int NUMBER = SwitchTower.NUMBER;
-    private static final int STATE = SwitchTower.STATE;
-    private static final int KIND = SwitchTower.KIND;
-    private static final int SPENT = SwitchTower.SPENT;
-    private static final int NEVER = SwitchTower.NEVER;
-    private static final int[] STILL = {};
-    private static final int[] TURN = {1, -1, 0, -1};
-
+final class EdgesOfLevels extends Edges {
     /** The last LEVEL for k LETTERS, and the last one that has a GROUP. */
     private static final int[] LAST = {0, 0, 8, 5, 4};
     private static final int[] LAST_GROUP = {0, 0, 4, 2, 2};
@@ -218,6 +208,16 @@ final class EdgesOfLevels {
         x.refused(NUMBER, name, rowOf(0, 10)).refused(NUMBER, name, rowOf(0, 11));
     }
 
+    private static void refusalsOfRow(String name) {
+        Doc.says("NUMBER: there is no such ROW, or its LEVEL is none");
+        for (int k = 2; k <= 4; k++) {
+            noRows(odometer(k), k, name);
+        }
+        noRows(open(), 2, name);
+        Doc.says("STATE.");
+        open().refused(STATE, name, 1).refused(STATE, name, 4).refused(STATE, name, rowOf(1, 8));
+    }
+
     private static void orbit() {
         Doc.promise(25);
         Doc.says("How many ROWS the ORBIT of a ROW has.");
@@ -225,13 +225,7 @@ final class EdgesOfLevels {
         odometer(3).due(243, "orbit", rowOf(2, 5));
         odometer(4).due(256, "orbit", rowOf(3, 4));
         Run.fresh().due(1, "orbit", rowOf(1, 8)).due(1, "orbit", 1);
-        Doc.says("NUMBER: there is no such ROW, or its LEVEL is none");
-        for (int k = 2; k <= 4; k++) {
-            noRows(odometer(k), k, "orbit");
-        }
-        noRows(open(), 2, "orbit");
-        Doc.says("STATE.");
-        open().refused(STATE, "orbit", 1).refused(STATE, "orbit", 4).refused(STATE, "orbit", rowOf(1, 8));
+        refusalsOfRow("orbit");
     }
 
     private static void far() {
@@ -303,13 +297,7 @@ final class EdgesOfLevels {
         odometer(4).due(128, "reach", rowOf(3, 4));
         eraser().due(2, "reach", Look.row("000")).due(1, "reach", Look.row("111"));
         Run.fresh().due(0, "reach", rowOf(1, 8));
-        Doc.says("NUMBER: there is no such ROW, or its LEVEL is none");
-        for (int k = 2; k <= 4; k++) {
-            noRows(odometer(k), k, "reach");
-        }
-        noRows(open(), 2, "reach");
-        Doc.says("STATE.");
-        open().refused(STATE, "reach", 1).refused(STATE, "reach", 4).refused(STATE, "reach", rowOf(1, 8));
+        refusalsOfRow("reach");
     }
 
     private static void group() {

@@ -1,15 +1,5 @@
 /** The edges of promises 1 to 10, and of the terms that they are told in. */
-final class EdgesOfSheets {
-    private static final int LEAST = Run.LEAST;
-    private static final int GREATEST = Run.GREATEST;
-    private static final int NUMBER = SwitchTower.NUMBER;
-    private static final int FULL = SwitchTower.FULL;
-    private static final int MISSING = SwitchTower.MISSING;
-    private static final int SIZE = SwitchTower.SIZE;
-    private static final int[] STILL = {};
-    private static final int[] TURN = {1, -1, 0, -1};
-    private static final int[] ERASE = {0, -1, 0, -1};
-
+final class EdgesOfSheets extends Edges {
     private EdgesOfSheets() {
     }
 
@@ -34,10 +24,6 @@ final class EdgesOfSheets {
         changeEmptiesWords();
         of();
         many();
-    }
-
-    private static Run eight() {
-        return Run.of(2, TURN, TURN, TURN, TURN, TURN, TURN, TURN, TURN);
     }
 
     // ---- the terms
@@ -81,7 +67,7 @@ final class EdgesOfSheets {
             .due(1, "many", 2);
         Run seven = Run.of(2, TURN, TURN, TURN, TURN, TURN, TURN, new int[] {0, -1, 1, 7}).due(0, "many", 2);
         seven.does("sheet", 0, 0, 0).does("state", 0, 0).due(1, "many", 2);
-        eight().due(1, "change", 7, 0, 0, 0).due(1, "many", 2).due(1, "change", 0, 0, 0, 7).due(1, "many", 2);
+        eight(2, TURN).due(1, "change", 7, 0, 0, 0).due(1, "many", 2).due(1, "change", 0, 0, 0, 7).due(1, "many", 2);
     }
 
     private static void kindsOfSheets() {
@@ -173,10 +159,10 @@ final class EdgesOfSheets {
         x.refused(MISSING, "cell", 0, 0, 7).refused(NUMBER, "letters", 5).refused(NUMBER, "state", 1, 1);
         x.refused(NUMBER, "change", 0, 0, 0, 8).refused(NUMBER, "put", 0, 1, 2, 3, 5).refused(NUMBER, "wipe", 8);
         x.refused(NUMBER, "times", 0, 0, 8).refused(NUMBER, "turn", 8, 0).refused(NUMBER, "part", 0, 0, 1);
-        x.refused(SwitchTower.NEVER, "law", 2, 8, 0).refused(SwitchTower.NEVER, "fallen", 1, 9, 0);
+        x.refused(NEVER, "law", 2, 8, 0).refused(NEVER, "fallen", 1, 9, 0);
         Doc.says("Of several refusals that a call names the first one named is answered.");
         x.refused(NUMBER, "sheet", 4, 0, -1).refused(MISSING, "cell", 0, -1, 7).refused(NUMBER, "state", 0, -1);
-        x.refused(NUMBER, "law", 3, -1, 8).refused(SwitchTower.SPENT, "law", 3, -1, 0);
+        x.refused(NUMBER, "law", 3, -1, 8).refused(SPENT, "law", 3, -1, 0);
     }
 
     // ---- the promises
@@ -303,7 +289,7 @@ final class EdgesOfSheets {
             }
             x.due(NUMBER, "put", 0, 1, 0, 0, 0).does("sheet", 1, 2, 0).due(0, "state", 1, 0).due(2, "many", 3);
         }
-        eight().due(1, "letters", 2).does("sheet", 0, 0, 0).due(0, "state", 0, 0);
+        eight(2, TURN).due(1, "letters", 2).does("sheet", 0, 0, 0).due(0, "state", 0, 0);
         Doc.says("NUMBER: k isn't 2 to 4.");
         Run x = Run.of(3, STILL, STILL).does("put", 7, 2, 0, 0, 0).bounds(NUMBER, 0, 2, 4, "letters", 3);
         x.refused(NUMBER, "letters", 0).refused(NUMBER, "letters", -2);
@@ -372,7 +358,7 @@ final class EdgesOfSheets {
         all.bounds(NUMBER, 0, 0, 3, "state", 0, 0);
         all.refused(NUMBER, "state", 0, -1).refused(NUMBER, "state", 0, LEAST).again().due(0, "state", 0, 0);
         Run.fresh().refused(NUMBER, "state", 0, -1);
-        Run full = eight().does("sheet", 0, 2, 4);
+        Run full = eight(2, TURN).does("sheet", 0, 2, 4);
         full.refused(NUMBER, "state", 4, 0).refused(NUMBER, "state", 0, -1).refused(NUMBER, "state", 1, -1);
         Doc.says("MISSING");
         Run.fresh().refused(MISSING, "state", 0, 0).refused(MISSING, "state", 3, GREATEST);
@@ -402,7 +388,7 @@ final class EdgesOfSheets {
     private static void change() {
         Doc.promise(8);
         Doc.says("A STATE WRITES y for LETTER x, and GOES to t: 1.");
-        Run x = Run.of(4, STILL, STILL, STILL, STILL, STILL, STILL, STILL, STILL);
+        Run x = eight(4, STILL);
         x.due(1, "change", 7, 3, 0, 7).due(0, "of", 7, 3, 0).due(7, "of", 7, 3, 1);
         x.due(1, "change", 0, 0, 3, -1).due(3, "of", 0, 0, 0).due(-1, "of", 0, 0, 1);
         x.due(1, "change", 7, 3, 3, -1).due(3, "of", 7, 3, 0).due(-1, "of", 7, 3, 1);
@@ -415,7 +401,7 @@ final class EdgesOfSheets {
             some.bounds(NUMBER, 2, 0, k - 1, "change", 2, 0, 0, -1);
             some.bounds(NUMBER, 3, -1, 7, "change", 2, 0, 0, -1);
         }
-        eight().bounds(NUMBER, 0, 0, 7, "change", 0, 0, 1, -1);
+        eight(2, TURN).bounds(NUMBER, 0, 0, 7, "change", 0, 0, 1, -1);
         Run.fresh().refused(NUMBER, "change", 0, 0, 0, -1);
         Run.of(4, STILL).does("letters", 2).refused(NUMBER, "change", 0, 0, 0, -1);
     }
@@ -453,7 +439,7 @@ final class EdgesOfSheets {
         for (int what = 0; what < 3; what++) {
             x.bounds(-2, 0, 0, 2, "of", 0, 0, what);
             Run.fresh().refused(-2, "of", 0, 0, what);
-            eight().bounds(-2, 0, 0, 7, "of", 0, 0, what);
+            eight(2, TURN).bounds(-2, 0, 0, 7, "of", 0, 0, what);
         }
         x.bounds(-2, 2, 0, 2, "of", 1, 0, 0);
         for (int k = 2; k <= 4; k++) {
@@ -468,11 +454,11 @@ final class EdgesOfSheets {
         Doc.says("How many: what = 0 LETTERS, 1 STATES, 2 1 if the machine is WHOLE, else 0, 3 TOKENS (all that"
             + " there are);");
         Run.fresh().due(2, "many", 0).due(0, "many", 1).due(1, "many", 2).due(0, "many", 3);
-        eight().due(2, "many", 0).due(8, "many", 1).due(1, "many", 2).due(16, "many", 3);
+        eight(2, TURN).due(2, "many", 0).due(8, "many", 1).due(1, "many", 2).due(16, "many", 3);
         Run.of(4, STILL).due(4, "many", 0).due(1, "many", 1).due(2, "many", 3);
-        Run.of(2, ERASE, ERASE, ERASE, ERASE, ERASE, ERASE, ERASE, ERASE).due(8, "many", 1).due(8, "many", 3);
+        eight(2, ERASE).due(8, "many", 1).due(8, "many", 3);
         Run.of(2, new int[] {0, 7, 1, -1}, TURN, ERASE).due(0, "many", 2).due(4, "many", 3);
         Doc.says("-1 for another what.");
-        eight().bounds(-1, 0, 0, 3, "many", 0);
+        eight(2, TURN).bounds(-1, 0, 0, 3, "many", 0);
     }
 }

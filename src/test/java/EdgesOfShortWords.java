@@ -1,15 +1,5 @@
 /** The edges of promises 30 to 34, and of the terms that they are told in. */
-final class EdgesOfShortWords {
-    private static final int LEAST = Run.LEAST;
-    private static final int GREATEST = Run.GREATEST;
-    private static final int NUMBER = SwitchTower.NUMBER;
-    private static final int STATE = SwitchTower.STATE;
-    private static final int SPENT = SwitchTower.SPENT;
-    private static final int NEVER = SwitchTower.NEVER;
-    private static final int[] STILL = {};
-    private static final int[] TURN = {1, -1, 0, -1};
-    private static final int[] ERASE = {0, -1, 0, -1};
-
+final class EdgesOfShortWords extends Edges {
     private EdgesOfShortWords() {
     }
 
@@ -84,11 +74,11 @@ final class EdgesOfShortWords {
             for (int i = 0; i < tokens.length; i++) {
                 alike.again().does("fallen", d, i, 0).word(tokens[i], 0);
             }
-            Run.of(2, STILL, STILL, STILL, STILL, STILL, STILL, STILL, STILL).due(17, "fall", d)
+            eight(2, STILL).due(17, "fall", d)
                 .does("fallen", d, 16, 0).word("-8", 0);
             Run.fresh().due(1, "fall", d).due(0, "fallen", d, 0, 0);
         }
-        Run.of(4, STILL, STILL, STILL, STILL, STILL, STILL, STILL, STILL).due(17, "fall", 2);
+        eight(4, STILL).due(17, "fall", 2);
         Doc.says("It is gone over from its first WORD on, as it grows: for each TOKEN in order, the WORD with the"
             + " TOKEN behind it (REDUCED), for each ROW of d LETTERS, by numbers: the PART there; if no WORD of"
             + " the heap is ALIKE to it, it comes to its end.");

@@ -1,16 +1,5 @@
 /** The edges of promises 11 to 22, and of the terms that they are told in. */
-final class EdgesOfWords {
-    private static final int LEAST = Run.LEAST;
-    private static final int GREATEST = Run.GREATEST;
-    private static final int NUMBER = SwitchTower.NUMBER;
-    private static final int FULL = SwitchTower.FULL;
-    private static final int STATE = SwitchTower.STATE;
-    private static final int KIND = SwitchTower.KIND;
-    private static final int SPENT = SwitchTower.SPENT;
-    private static final int NEVER = SwitchTower.NEVER;
-    private static final int[] STILL = {};
-    private static final int[] TURN = {1, -1, 0, -1};
-    private static final int[] ERASE = {0, -1, 0, -1};
+final class EdgesOfWords extends Edges {
     private static final int TEN = Look.row("0000000000");
 
     private EdgesOfWords() {
@@ -43,10 +32,6 @@ final class EdgesOfWords {
     /** STATES 0 and 1 have ways back, STATE 2 has none. */
     private static Run mixed() {
         return Run.of(2, TURN, new int[] {0, 0, 1, 1}, ERASE);
-    }
-
-    private static Run eight() {
-        return Run.of(2, TURN, TURN, TURN, TURN, TURN, TURN, TURN, TURN);
     }
 
     /** STATE 0 turns, and STATE 1 goes to 7, which is not there. */
@@ -86,7 +71,7 @@ final class EdgesOfWords {
         Run x = Run.of(3, new int[] {1, -1, 2, -1, 0, -1}, STILL, new int[] {0, -1, 0, -1, 0, -1});
         x.puts(0, "1").puts(1, "-1").puts(2, "3").due(5, "act", 0, 4).due(6, "act", 1, 4).due(4, "act", 2, 6);
         x.due(5, "many", 3).refused(KIND, "put", 0, -3, 0, 0, 0);
-        eight().due(1, "put", 0, 8, 0, 0, 0).due(1, "put", 1, -8, 0, 0, 0).refused(NUMBER, "put", 2, 9, 0, 0, 0)
+        eight(2, TURN).due(1, "put", 0, 8, 0, 0, 0).due(1, "put", 1, -8, 0, 0, 0).refused(NUMBER, "put", 2, 9, 0, 0, 0)
             .refused(NUMBER, "put", 2, -9, 0, 0, 0);
         Doc.says("TOKENS in order: 1, -1, 2, -2, 3, and so on.");
         Run idlers = Run.of(2, STILL, STILL, ERASE, STILL);
@@ -237,7 +222,7 @@ final class EdgesOfWords {
                 x.refused(NUMBER, "put", given);
             }
         }
-        Run many = eight().due(2, "put", 0, 8, -8, 8, 8).due(4, "put", 1, -8, -8, 1, -8);
+        Run many = eight(2, TURN).due(2, "put", 0, 8, -8, 8, 8).due(4, "put", 1, -8, -8, 1, -8);
         many.refused(NUMBER, "put", 0, 9, 0, 0, 0).refused(NUMBER, "put", 0, 1, -9, 0, 0);
         Run.fresh().refused(NUMBER, "put", 0, 1, 0, 0, 0).refused(NUMBER, "put", 0, -1, 0, 0, 0);
         // Ahead of KIND, wherever the TOKEN stands, and ahead of FULL.
@@ -288,7 +273,7 @@ final class EdgesOfWords {
     private static void token() {
         Doc.promise(14);
         Doc.says("TOKEN i of the WORD of a SPOT;");
-        Run x = eight().puts(0, "8 -7 6 -5 4 -3 2 -1 8 -7 6 -5 4 -3 2 -1").puts(7, "-8");
+        Run x = eight(2, TURN).puts(0, "8 -7 6 -5 4 -3 2 -1 8 -7 6 -5 4 -3 2 -1").puts(7, "-8");
         int[] tokens = {8, -7, 6, -5, 4, -3, 2, -1};
         for (int i = 0; i < 16; i++) {
             x.due(tokens[i % 8], "token", 0, i);
@@ -332,7 +317,7 @@ final class EdgesOfWords {
     private static void turn() {
         Doc.promise(16);
         Doc.says("The WORD's way back (opposite TOKENS, the last one first) comes to a SPOT: how many TOKENS.");
-        Run x = eight().puts(0, "8 -7 6 -5 4 -3 2 -1 8 -7 6 -5 4 -3 2 -1").puts(1, "-8");
+        Run x = eight(2, TURN).puts(0, "8 -7 6 -5 4 -3 2 -1 8 -7 6 -5 4 -3 2 -1").puts(1, "-8");
         x.again().due(16, "turn", 0, 7).word("1 -2 3 -4 5 -6 7 -8 1 -2 3 -4 5 -6 7 -8", 7).due(0, "times", 0, 7, 6);
         x.again().due(16, "turn", 0, 0).word("1 -2 3 -4 5 -6 7 -8 1 -2 3 -4 5 -6 7 -8", 0);
         x.again().due(1, "turn", 1, 0).word("8", 0).due(0, "turn", 5, 0).word("", 0);
@@ -467,6 +452,14 @@ final class EdgesOfWords {
             .refused(NEVER, "apart", 1, 0);
     }
 
+    private static void refusalsOfHeap(String name) {
+        Doc.says("NUMBER, STATE, SPENT likewise.");
+        greatHeaps().bounds(NUMBER, 0, 0, 7, name, 0);
+        open().refused(NUMBER, name, 8).refused(NUMBER, name, -1).refused(STATE, name, 0).refused(STATE, name, 7);
+        openHeapOf201().refused(STATE, name, 0).refused(NUMBER, name, 8);
+        heapOf201().refused(SPENT, name, 0).due(1, name, 7);
+    }
+
     private static void heap() {
         Doc.promise(21);
         Doc.says("How many WORDS THE HEAP of the WORD of a SPOT has.");
@@ -474,12 +467,7 @@ final class EdgesOfWords {
         Run.of(2, new int[] {0, 0, 1, 0}).puts(0, "1").due(1, "heap", 0).due(1, "heap", 7);
         Run.of(2, TURN).puts(0, "1 1").due(2, "heap", 0);
         greatHeaps().due(200, "heap", 0);
-        Doc.says("NUMBER, STATE, SPENT likewise.");
-        greatHeaps().bounds(NUMBER, 0, 0, 7, "heap", 0);
-        open().refused(NUMBER, "heap", 8).refused(NUMBER, "heap", -1).refused(STATE, "heap", 0)
-            .refused(STATE, "heap", 7);
-        openHeapOf201().refused(STATE, "heap", 0).refused(NUMBER, "heap", 8);
-        heapOf201().refused(SPENT, "heap", 0).due(1, "heap", 7);
+        refusalsOfHeap("heap");
     }
 
     private static void least() {
@@ -492,11 +480,6 @@ final class EdgesOfWords {
         greatHeaps().due(176, "least", 0);
         // These are all unlike, but it takes more than fourteen letters to see.
         slow().puts(0, "2 2 2 2 2 2 2 2 2 2 2 2 2 2 2 2").due(16, "heap", 0).due(16, "least", 0);
-        Doc.says("NUMBER, STATE, SPENT likewise.");
-        greatHeaps().bounds(NUMBER, 0, 0, 7, "least", 0);
-        open().refused(NUMBER, "least", 8).refused(NUMBER, "least", -1).refused(STATE, "least", 0)
-            .refused(STATE, "least", 7);
-        openHeapOf201().refused(STATE, "least", 0).refused(NUMBER, "least", 8);
-        heapOf201().refused(SPENT, "least", 0).due(1, "least", 7);
+        refusalsOfHeap("least");
     }
 }

@@ -12,9 +12,6 @@ import java.util.function.Supplier;
  * check hangs on an earlier one.
  */
 final class Run {
-    static final int LEAST = Integer.MIN_VALUE;
-    static final int GREATEST = Integer.MAX_VALUE;
-
     // The document promises 512 calls; those that lay a bench of eight STATES are not counted here.
     private static final int MOST_CALLS = 420;
     private static final Map<String, Method> FACE = face();
@@ -106,7 +103,7 @@ final class Run {
             Call taken = call.with(place, number);
             Due.check(Doc.here() + calls + ", then " + taken + " is refused", again().keep(taken) != refusal);
         }
-        for (int number : new int[] {low - 1, high + 1, LEAST, GREATEST}) {
+        for (int number : new int[] {low - 1, high + 1, Integer.MIN_VALUE, Integer.MAX_VALUE}) {
             refuse(refusal, call.with(place, number));
         }
         return this;
