@@ -27,7 +27,9 @@ public final class FaceTest {
         listFace();
         outerClass();
         nestedClasses();
-        text(Files.readString(Path.of("src/main/java/SwitchTower.java")));
+        String whole = Files.readString(Path.of("src/main/java/SwitchTower.java"));
+        text(whole);
+        faceOfDocument(whole, Files.readString(Path.of("../shared/DOC.md")));
         Due.end();
     }
 
@@ -127,6 +129,25 @@ public final class FaceTest {
             Due.check("the text has the character " + (int) c, c < 256);
         }
         methodLengths(whole);
+    }
+
+    /** Each line of the document's face stands in the class as it stands there, and nothing else is public. */
+    private static void faceOfDocument(String whole, String document) {
+        Matcher block = Pattern.compile("(?ms)^## The public face$.*?^```java\n(.*?)^```$").matcher(document);
+        Due.check("the document has no face", block.find());
+        List<String> due = new ArrayList<>();
+        for (String line : block.group(1).split("\n")) {
+            if (line.contains("public")) {
+                due.add(line.endsWith(");") ? line.replace(");", ") {") : line);
+            }
+        }
+        List<String> got = new ArrayList<>();
+        for (String line : whole.split("\n")) {
+            if (line.matches("\\s*public\\b.*")) {
+                got.add(line);
+            }
+        }
+        Due.due("the lines of the face", String.join("\n", got), String.join("\n", due));
     }
 
     private static void methodLengths(String whole) {
